@@ -270,9 +270,6 @@ public final class PageSlabs {
     // What is wrong with a thing that is given back.
 
     private int wrongWithPage(int page) {
-        if (!isPage(page) || blocks.firstOf(page) != page) {
-            return WILD;
-        }
         int use = blocks.useFrom(page);
         if (use == FREE) {
             return TWICE;
@@ -312,7 +309,13 @@ public final class PageSlabs {
     // Objects of a cache, in slabs.
 
     private int takeObject(Cache cache) {
-        int page = slabToTakeFrom(cache);
+        int page = partlyLiveSlab(cache);
+        if (page == NONE) {
+            page = cache.emptyPage;
+        }
+        if (page == NONE) {
+            page = newSlab(cache);
+        }
         Slab slab = slabAt(page);
         int index = slab == null ? NONE : slab.takeFront();
         if (index == NONE) {
@@ -325,16 +328,8 @@ public final class PageSlabs {
         return page * PAGE_BYTES + index * cache.stride;
     }
 
-    private int slabToTakeFrom(Cache cache) {
-        int page = partlyLiveSlab(cache);
-        if (page == NONE) {
-            page = cache.emptyPage;
-        }
-        return page == NONE ? newSlab(cache) : page;
-    }
-
     private int partlyLiveSlab(Cache cache) {
-        for (int page = 0; page < PAGES; page += 1 << cache.slabOrder) {
+        for (int page = 0; page < PAGES; page++) {
             Slab slab = slabs[page];
             if (slab != null && blocks.useFrom(page) == cache.use && slab.isPartlyLive()) {
                 return page;
@@ -368,18 +363,12 @@ public final class PageSlabs {
         slab.putFront(cache.indexAt(address - page * PAGE_BYTES));
         cache.live--;
         int live = slab.liveCount();
-        if (live == 0) {
-            settleEmpty(cache, page);
-        }
-        return live;
-    }
-
-    private void settleEmpty(Cache cache, int page) {
-        if (cache.emptyPage == NONE) {
+        if (live == 0 && cache.emptyPage == NONE) {
             cache.emptyPage = page;
-        } else {
+        } else if (live == 0) {
             dropSlab(cache, page);
         }
+        return live;
     }
 
     private void dropSlab(Cache cache, int page) {
@@ -551,17 +540,11 @@ public final class PageSlabs {
         }
 
         private int leastFree(int atLeast) {
-            for (int order = atLeast; order <= TOP_ORDER; order++) {
-                int page = freeCounts[order] == 0 ? NONE : leastFreeOf(order);
-                if (page != NONE) {
-                    return page;
-                }
+            int order = atLeast;
+            while (order < TOP_ORDER && freeCounts[order] == 0) {
+                order++;
             }
-            return NONE;
-        }
-
-        private int leastFreeOf(int order) {
-            for (int page = 0; page < PAGES; page += 1 << order) {
+            for (int page = 0; page < PAGES; page++) {
                 if (isFree(page, order)) {
                     return page;
                 }

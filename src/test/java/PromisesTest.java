@@ -371,6 +371,21 @@ public final class PromisesTest {
         figures(x, 6, 17, 2, 18, 1, 7, 1, 0, 0);
         due("count(4)", x.count(4), 0);
         secondEmptyGoes();
+        mostObjects();
+    }
+
+    private static void mostObjects() {
+        PageSlabs x = started(255, 255);
+        due("cache(1, 1)", x.cache(1, 1), 6);
+        for (int i = 0; i < 64; i++) {
+            takes(x, 6, 16320 + i);
+        }
+        takes(x, 6, NONE);
+        for (int i = 63; i >= 0; i--) {
+            due("give", x.give(6, 16320 + i), i);
+            due("give again", x.give(6, 16320 + i), TWICE);
+        }
+        takes(x, 6, 16320, 16321);
     }
 
     private static void secondEmptyGoes() {
