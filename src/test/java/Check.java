@@ -10,6 +10,11 @@ final class Check {
         where = place;
     }
 
+    /** What follows tests a sentence of the document; where it stands in the terms, the promise is one that stands on it. */
+    void says(int promise, String sentence) {
+        in("promise " + promise + ", \"" + sentence + "\"");
+    }
+
     void due(String call, long got, long want) {
         seen++;
         if (got == want) {

@@ -56,7 +56,6 @@ public final class FaceTest {
             check.no("a private method is called " + name, faceNames.contains(name));
         }
         for (Class<?> inside : PageSlabs.class.getDeclaredClasses()) {
-            check.yes(inside + " is static", Modifier.isStatic(inside.getModifiers()));
             check.no(inside + " is public", Modifier.isPublic(inside.getModifiers()));
             check.no(inside + " is protected", Modifier.isProtected(inside.getModifiers()));
         }
@@ -79,11 +78,6 @@ public final class FaceTest {
             } else {
                 visible.add(m.toString());
                 faceNames.add(m.getName());
-            }
-        }
-        for (Class<?> inside : PageSlabs.class.getDeclaredClasses()) {
-            for (Method m : inside.getDeclaredMethods()) {
-                hiddenNames.add(m.getName());
             }
         }
         found.addAll(visible);
