@@ -277,6 +277,9 @@ public final class BlockBoundaryTest {
         x.takes(0, 8, 16).give(0, 16, 2).alloc(8, 16).resize(16, 7, 16).free(16, 8).count(8, 0);
         x.pages(7, NONE).pages(-1, NONE).alloc(0, NONE).alloc(4097, NONE).take(6, NONE).resize(0, 0, NONE).freePages(1, TWICE);
         x.count(8, 0).count(2, 0).take(1, NONE).count(8, NONE).count(2, 1);
+        Run more = started(0, 63).arm(3, true).take(0, 0).count(8, 2).takes(0, 8, 16).alloc(8, 24).give(0, 0, 3).take(0, 0).count(8, 2);
+        more.alloc(300, 512).count(8, 1).resize(512, 400, 512).count(8, 1).resize(512, 8, 32).count(8, 1).freePages(8, TWICE).shrink(0, 0);
+        more.resize(32, 16, 64).count(8, 0).give(1, 64, 0).take(1, 64).count(8, 0).resize(64, 32, NONE).count(8, NONE).count(2, 1);
         // before the start nothing is taken
         made().usable(0, 63, true).arm(0, true).pages(0, NONE).take(0, NONE).alloc(1, NONE).alloc(999, NONE).count(8, 0).count(2, 0)
             .start(64).count(8, 0).pages(0, NONE).count(8, NONE);
